@@ -246,7 +246,7 @@ public final class LeapArches {
             return none(WRONG);
         }
         text.open(n);
-        boolean taken = viaductReader.fill(spare);
+        boolean taken = viaductReader.readInto(spare);
         text.filled = 0;
         if (!taken) {
             return none(FAULTY);
@@ -263,7 +263,7 @@ public final class LeapArches {
             return none(WRONG);
         }
         text.open(n);
-        boolean taken = stepsReader.fill(spareSteps, now);
+        boolean taken = stepsReader.readInto(spareSteps, now);
         text.filled = 0;
         if (!taken) {
             return none(FAULTY);
@@ -1809,7 +1809,7 @@ public final class LeapArches {
             text = source;
         }
 
-        boolean fill(Viaduct viaduct) {
+        boolean readInto(Viaduct viaduct) {
             viaduct.clear();
             told = 0;
             // Each PART has some bytes, so there are fewer.
@@ -2004,7 +2004,7 @@ public final class LeapArches {
             open = new int[MOST_DEPTH];
         }
 
-        boolean fill(Steps target, Viaduct people) {
+        boolean readInto(Steps target, Viaduct people) {
             steps = target;
             viaduct = people;
             steps.clear();
