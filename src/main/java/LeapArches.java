@@ -1352,8 +1352,8 @@ public final class LeapArches {
         // ---- MENDS: NONE if by no JUMPS.
 
         int jumpsFor(int set, int arch) {
-            int heaviest = MOST_HOLDS + MOST_MOSS;
-            for (int jumps = 0; jumps <= heaviest; jumps++) {
+            // Behind so many an ARCH HOLDS all that it can and has no MOSS, so more are in vain.
+            for (int jumps = 0; jumps <= MOST_HOLDS; jumps++) {
                 if (bearsBehindJumps(set, arch, jumps)) {
                     return jumps;
                 }
@@ -1459,7 +1459,10 @@ public final class LeapArches {
 
         /** Once the lesser sets have their costs. */
         private int cheapestOf(int set) {
-            int first = Integer.numberOfTrailingZeros(set);
+            int first = 0;
+            while (first < people && !contains(set, first)) {
+                first++;
+            }
             int least = NONE;
             for (int i = first; i < people; i++) {
                 int price = priceOfGroup(set, first, i);
@@ -1575,13 +1578,14 @@ public final class LeapArches {
 
         private boolean canMove(int mover, int move) {
             int next = ground.behind[mover];
-            if (move == SIT) {
-                return true;
+            switch (move) {
+                case GO:
+                    return ground.hasArch(next) && ground.bearsAlone(mover, next);
+                case JUMP_ON:
+                    return ground.hasArch(next) && ground.canJumpOn(next);
+                default:
+                    return true;
             }
-            if (!ground.hasArch(next)) {
-                return false;
-            }
-            return move == GO ? ground.bearsAlone(mover, next) : ground.canJumpOn(next);
         }
 
         private int worthBehind(int turn, int mover, int move) {

@@ -271,6 +271,10 @@ public final class DeedsTest {
         c.due("rule(3, 0)", x.rule(3, 0), true);
         c.due("told(3)", x.told(3), 0);
         c.due("told(4)", x.told(4), 5);
+        c.due("rule(4, 0)", x.rule(4, 0), true);
+        c.due("rule(5, 0)", x.rule(5, 0), true);
+        c.due("told(4)", x.told(4), 0);
+        c.due("told(5)", x.told(5), 0);
         c.refused(x, "rule(2, 0)", x.rule(2, 0), 1);
         c.refused(x, "rule(6, 0)", x.rule(6, 0), 1);
         c.refused(x, "rule(-1, 0)", x.rule(-1, 0), 1);

@@ -45,6 +45,13 @@ public final class DoubtTest {
         LeapArches high = ground(0, 3, 2);
         high.rule(3, 9);
         fitting(c, high, 1, 2, 3);
+        // By NET 0 who is stopped falls to no ARCH; who is stopped at the first one does not fall.
+        LeapArches low = ground(0, 0, 0);
+        low.rule(3, 0);
+        fitting(c, low, 1, 5, 6, 7, 8, 9);
+        LeapArches first = Check.withViaduct("arch holds 12 moss 1;person a weight 5 at 1;");
+        first.tray(2, 0, 2);
+        fitting(c, first, 1, 8, 9);
     }
 
     private static void severalTwos(Check c) {
@@ -73,6 +80,15 @@ public final class DoubtTest {
         // In FOG 5 stopped at 1: 2 to 9. These in FOG 0: over 2 to 4, at 2 5 to 9; 1: over 2, at 2 3 to 9; 2: at 2 2 to 4, at 1 5 to 9; 3: at 2 2, 3.
         c.due("ask(0, 2, 1) by three ways: of FOGS that are as good the least", high.ask(0, 2, 1), 0);
         c.due("status()", high.status(), 0);
+        LeapArches two = Check.withViaduct("arch holds 12 moss 1;person a weight 4;");
+        two.tray(2, 0, 4);
+        two.write(2, 2, 5);
+        c.refused(two, "ask(0, 2, 1): 9 alone", two.ask(0, 2, 1), 6);
+        two.teach(0, 0, 5);
+        c.due("ask(0, 2, 1): 8 and 9, alike in every FOG", two.ask(0, 2, 1), 0);
+        LeapArches far = Check.withViaduct("arch holds 60;person a weight 16;");
+        far.tray(2, 0, 0);
+        c.due("ask(0, 2, 0): the greatest FOG alone parts them", far.ask(0, 2, 0), 5);
         LeapArches alike = Check.withViaduct("arch holds 60;person a weight 1;");
         alike.tray(2, 0, 0);
         c.due("ask(0, 2, 0): no FOG parts them", alike.ask(0, 2, 0), 0);

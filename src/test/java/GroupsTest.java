@@ -131,6 +131,10 @@ public final class GroupsTest {
         c.refused(x, "mendsAt(a, 0)", x.mendsAt(1, 0), 6);
         c.refused(x, "mends(a b)", x.mends(3), 6);
         c.due("mends(b)", x.mends(2), 1);
+        LeapArches z = Check.withViaduct("fog 4;arch holds 0 moss 9;person a weight 24 doubt 9;");
+        c.due("mends, as many as can be: 24 + 36", z.mends(1), 60);
+        z.teach(0, 0, 25);
+        c.refused(z, "mends", z.mends(1), 6);
         LeapArches y = Check.withViaduct("arch holds 60 moss 9;person a weight 24 doubt 9;");
         c.due("mends, 60 is held all along: 24 + 36", y.mends(1), 5);
     }

@@ -8,6 +8,7 @@ public final class MarksTest {
         allIsTakenBack(c);
         theLatestFirst(c);
         viaductsAndDecadesAreTakenBack(c);
+        everyKindOfStepIsTakenBack(c);
         whatIsNotOfTheViaductStays(c);
         c.end();
     }
@@ -120,6 +121,23 @@ public final class MarksTest {
         Check.decades(x, "any;any;any;");
         x.undo();
         c.due("the DECADES alone", x.live(0), 2);
+    }
+
+    private static void everyKindOfStepIsTakenBack(Check c) {
+        String ground = "net 9;arch holds 40 moss 4;arch holds 40;person a weight 3;person b weight 3;";
+        String text = "when moss 0 > 3;rope b a;loop 3;jump 1;end;end;when at a < 1;jump 0;end;when over b;fog 2;end;";
+        LeapArches plain = Check.withViaduct(ground);
+        Check.decades(plain, text);
+        LeapArches marked = Check.withViaduct(ground);
+        Check.decades(marked, text);
+        marked.mark();
+        Check.decades(marked, "loop 2;loop 2;when at a=0;run a;end;end;end;rope a b;when over a;any;end;day 3;when moss 1<1;stop;end;");
+        marked.live(3);
+        marked.undo();
+        c.due("STEPS done", marked.live(0), plain.live(0));
+        c.due("PAID by the first of the rope", marked.person(1, 4), 2);
+        c.due("FOG", marked.told(4), 2);
+        c.due("all is as without a MARK", all(marked).equals(all(plain)), true);
     }
 
     private static void whatIsNotOfTheViaductStays(Check c) {

@@ -271,5 +271,24 @@ public final class ViaductTextTest {
         c.due("LOVE", x.person(0, 2), 0);
         c.due("FELL", x.person(0, 5), 0);
         c.refused(x, "live(0)", x.live(0), 6);
+        x.run(0);
+        x.rule(3, 0);
+        x.build(1, 1);
+        x.run(0);
+        x.day(3);
+        Check.viaduct(x, WHOLE);
+        x.jump(1);
+        c.due("viaduct, a third one", Check.viaduct(x, "person r weight 4;person s weight 5;arch holds 3;"), 2);
+        c.due("ARCHES", x.told(0), 1);
+        c.due("DAY", x.told(6), 0);
+        c.due("TROD", x.told(8), 0);
+        c.due("FOG", x.told(4), 0);
+        c.due("PLANTS", x.told(2), 0);
+        for (int person = 0; person < 2; person++) {
+            int[] fresh = {4 + person, 1, 0, 0, 0, 0};
+            for (int what = 0; what < 6; what++) {
+                c.due("person(" + person + ", " + what + ")", x.person(person, what), fresh[what]);
+            }
+        }
     }
 }
