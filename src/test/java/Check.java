@@ -5,17 +5,34 @@ final class Check {
     private final String what;
     private int asked = 0;
     private int wrong = 0;
+    private String heading = "";
 
     Check(String what) {
         this.what = what;
+    }
+
+    /** What is asked from here on is of this promise, and of this piece of the document; QuotesTest looks both up. */
+    void promise(int number, String piece) {
+        heading = "promise " + number + " (" + piece + "): ";
     }
 
     void due(String call, long got, long want) {
         asked++;
         if (got != want) {
             wrong++;
-            System.out.println(what + ": " + call + " answered " + got + ", due is " + want);
+            System.out.println(what + ": " + heading + call + " answered " + got + ", due is " + want);
         }
+    }
+
+    /** A call that has STATUS 0. */
+    void given(LeapArches x, String call, long got, long want) {
+        due(call, got, want);
+        due("status() behind " + call, x.status(), 0);
+    }
+
+    void given(LeapArches x, String call, boolean got) {
+        due(call, got, true);
+        due("status() behind " + call, x.status(), 0);
     }
 
     void due(String call, boolean got, boolean want) {
