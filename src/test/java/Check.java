@@ -80,9 +80,13 @@ final class Check {
         return x.decades(feed(x, text));
     }
 
+    /** Only of a text that is right: a test must not go on with a VIADUCT of nothing unseen. */
     static LeapArches withViaduct(String text) {
         LeapArches x = new LeapArches();
         viaduct(x, text);
+        if (x.status() != 0) {
+            throw new IllegalStateException("FAULT " + x.fault(0) + " at " + x.fault(1) + " of " + text);
+        }
         return x;
     }
 
