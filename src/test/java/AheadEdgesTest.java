@@ -95,6 +95,10 @@ public final class AheadEdgesTest {
         }
         x.teach(0, 1, 0);
         c.given(x, "reachIn(0, 40), without DOUBT", x.reachIn(0, 40), 1);
+        // 5 + 2 (MOSS + 5) of 21: MOSS 3.
+        LeapArches foggy = Check.withViaduct("fog 5;arch holds 21 moss 1;person a weight 5 doubt 2;");
+        c.given(foggy, "reachIn(0, 2) in FOG 5", foggy.reachIn(0, 2), 1);
+        c.given(foggy, "reachIn(0, 3) in FOG 5", foggy.reachIn(0, 3), 0);
         LeapArches fall = Check.withViaduct("net 1;arch holds 60;arch holds 60;arch holds 5;person a weight 5;");
         c.given(fall, "reachIn(0, 0)", fall.reachIn(0, 0), 3);
         c.given(fall, "reachIn(0, 1), he falls", fall.reachIn(0, 1), 1);

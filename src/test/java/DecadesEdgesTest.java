@@ -111,6 +111,8 @@ public final class DecadesEdgesTest {
         c.decadesFault(x, "loop 1; \n", 2, 9);
         c.decadesFault(x, "loop 1;loop 1;end;", 2, 18);
         c.decadesFault(x, "loop 1;end", 2, 10);
+        c.decadesFault(x, "loop 1;end any;", 2, 11);
+        c.decadesFault(x, "loop 1;end 3;end;", 2, 11);
         c.decadesFault(x, "when over a", 2, 11);
         String whole = "when at abcdefgh < 3; any; end;";
         for (int n = 1; n < whole.length(); n++) {
@@ -479,6 +481,14 @@ public final class DecadesEdgesTest {
         x.decades(0);
         c.given(x, "no STEP", x.live(0), 0);
         c.given(x, "no DAY", x.lived(1), 0);
+        Check.decades(x, "loop 99;end;loop 4;loop 99;fog 0;end;end;");
+        x.live(0);
+        c.given(x, "MISSED", x.lived(0), 295);
+        c.given(x, "a STEP was left", x.lived(4), 1);
+        Check.decades(x, "day 1;");
+        x.live(0);
+        c.given(x, "none was MISSED", x.lived(0), 0);
+        c.given(x, "none was left", x.lived(4), 0);
     }
 
     private static void meansOfOneAndOfTwenty(Check c) {

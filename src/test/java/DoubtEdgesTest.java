@@ -17,6 +17,7 @@ public final class DoubtEdgesTest {
         theKthOfThese(c);
         askingForTwo(c);
         askingOfSeveral(c);
+        askingInEachFog(c);
         c.end();
     }
 
@@ -212,5 +213,19 @@ public final class DoubtEdgesTest {
         // 20 + DOUBT f of 25 and of 34 (NET 9): FOG 1: to 5, all; 2: to 2, to 7: three, five, two; 3: to 1, to 4: two, three, five.
         LeapArches several = on("net 9;arch holds 34;arch holds 25;person a weight 20;", 0);
         c.given(several, "FOG 2 and 3 are as good", several.ask(0, 0, 0), 2);
+        // At 0, at 1, over: FOG 2: four, one, five; FOG 3: five, two, three: it is the most that counts, not the least.
+        LeapArches three = on("net 9;arch holds 50 moss 3;arch holds 33;person a weight 25;", 0);
+        c.given(three, "FOG 2 and 3 are as good by the most", three.ask(0, 0, 0), 2);
+    }
+
+    private static void askingInEachFog(Check c) {
+        c.promise(45, "ASK: the FOG (0 to 5)");
+        // 20 + DOUBT f of 20 + 4 f: in FOG f five are over, in a lesser one more, in a greater one fewer.
+        for (int fog = 1; fog <= 5; fog++) {
+            LeapArches x = on("net 9;arch holds " + (20 + 4 * fog) + ";person a weight 20;", 0);
+            c.given(x, "FOG " + fog, x.ask(0, 0, 0), fog);
+        }
+        LeapArches none = on("net 9;arch holds 24 moss 1;person a weight 20;", 0);
+        c.given(none, "FOG 0", none.ask(0, 0, 0), 0);
     }
 }

@@ -133,6 +133,9 @@ public final class GameEdgesTest {
         x.sow(1, 99);
         c.given(x, "garden(0)", x.garden(0), 0);
         c.given(x, "garden(1)", x.garden(1), 99);
+        LeapArches least = Check.withViaduct("plant 1 joy 1;");
+        c.given(least, "garden(1), the least JOY", least.garden(1), 1);
+        c.given(least, "gardenSet(1)", least.gardenSet(1), 1);
         c.promise(49, "GARDEN: the set");
         c.given(x, "gardenSet(0)", x.gardenSet(0), 0);
         c.given(x, "gardenSet(1)", x.gardenSet(1), 1);

@@ -9,6 +9,7 @@ public final class MarkEdgesTest {
         everythingIsTakenBack(c);
         anotherViaductIsTakenBack(c);
         decadesAreTakenBack(c);
+        everyKindOfStepIsTakenBack(c);
         whatIsNotKept(c);
         c.end();
     }
@@ -141,6 +142,27 @@ public final class MarkEdgesTest {
         c.given(x, "one STEP", x.live(0), 1);
         x.undo();
         c.refused(x, "no DECADES", x.live(0), 6);
+    }
+
+    private static void everyKindOfStepIsTakenBack(Check c) {
+        c.promise(57, "the DECADES are kept as they are");
+        String ground = "net 0;odds 8;arch holds 30 moss 4 toll 2;arch holds 30 toll 3;arch holds 9;person a weight 3;person b weight 4;";
+        String[] texts = {"run b;rope a b;jump 2;home a;day 3;fog 2;any;", "when over a;stop;end;when at b < 2;jump 1;end;when moss 0 > 3;any;end;day 1;",
+            "loop 3;when moss 1 = 0;day 2;end;jump 0;end;rope b a;stop;any;", "loop 2;loop 3;any;end;end;when at a > 0;when over b;fog 1;end;home a;end;"};
+        for (String kept : texts) {
+            LeapArches plain = Check.withViaduct(ground);
+            Check.decades(plain, kept);
+            String want = Whole.lives(plain);
+            for (String other : texts) {
+                LeapArches x = Check.withViaduct(ground);
+                Check.decades(x, kept);
+                x.mark();
+                Check.decades(x, other);
+                c.due("other DECADES", x.status(), 0);
+                x.undo();
+                c.due("\"" + kept + "\" behind \"" + other + "\"", Whole.lives(x).equals(want), true);
+            }
+        }
     }
 
     private static void whatIsNotKept(Check c) {

@@ -25,6 +25,7 @@ public final class TextEdgesTest {
         theFirstFaultAlongTheText(c);
         theLeastKindOfOneToken(c);
         theEndIsThePlace(c);
+        theEndOfTheTape(c);
         whatFaultTells(c);
         aNewViaductIsClean(c);
         setsThatAreEmptyAndFull(c);
@@ -336,6 +337,31 @@ public final class TextEdgesTest {
             c.due("its place: the length, or the WORD that is cut", x.fault(1), within ? cut.lastIndexOf(' ') + 1 : n);
         }
         c.viaductFault(new LeapArches(), "net 5  \n\n", 2, 9);
+        LeapArches cut = new LeapArches();
+        Check.feed(cut, "net 55;");
+        c.refused(cut, "a NUMBER that goes on behind the text", cut.viaduct(5), 9);
+        c.due("its FAULT", cut.fault(0) * 100 + cut.fault(1), 205);
+        Check.feed(cut, "net 4;12345");
+        c.refused(cut, "a NUMBER of 5 digits of which 4 are in the text", cut.viaduct(10), 9);
+        c.due("its FAULT", cut.fault(0) * 100 + cut.fault(1), 206);
+        Check.feed(cut, "net 4;     @");
+        c.given(cut, "blanks to the end of the text", cut.viaduct(11), 0);
+    }
+
+    private static void theEndOfTheTape(Check c) {
+        c.promise(10, "2 it can't stand there (the end: the text's length");
+        // What the tape ends with: its kind of FAULT and its place, from the end on.
+        String[] tails = {"ne", "net", "plan", "net 5", "net 1234", "net 12345", "person abcdefgh", "person abcdefghi", "arch holds", "@", ";", "net 5;", " "};
+        int[] kinds = {2, 2, 2, 2, 4, 1, 2, 2, 2, 1, 2, 0, 0};
+        int[] back = {2, 0, 4, 0, 4, 5, 0, 9, 0, 1, 1, 901, 901};
+        for (int i = 0; i < tails.length; i++) {
+            LeapArches x = new LeapArches();
+            Check.feed(x, " ".repeat(900 - tails[i].length()) + tails[i]);
+            x.viaduct(900);
+            c.due("status() of a tape that ends with " + tails[i], x.status(), kinds[i] == 0 ? 0 : 9);
+            c.due("its FAULT", x.fault(0), kinds[i]);
+            c.due("its place", x.fault(1), 900 - back[i]);
+        }
     }
 
     private static void whatFaultTells(Check c) {
@@ -384,6 +410,25 @@ public final class TextEdgesTest {
         c.refused(x, "no DECADES", x.mean(0, 1), 6);
         c.given(x, "DAYS go by from the first on", x.day(99), 9);
         c.due("DAY", x.told(6), 99);
+        c.due("one that came is new", x.come(3), 1);
+        Check.viaduct(x, "net 0;fog 5;odds 16;" + "arch holds 60 moss 9 toll 9;".repeat(2) + "arch holds 1;person a weight 40 doubt 1 love 9 at 1;person b weight 40 doubt 9 love 9 at 1;plant 9 joy 9;");
+        x.run(0);
+        x.run(0);
+        x.day(9);
+        x.jump(0);
+        x.run(1);
+        // Both that were there are used again, in turn, for what is there next.
+        for (int i = 0; i < 2; i++) {
+            c.given(x, "a text of little", Check.viaduct(x, "arch holds 1;arch holds 2;arch holds 3;person q weight 1;person r weight 2;"), 2);
+            String little = " told 3 2 0 3 0 2 0 0 0 0 arch 1 0 1 1 arch 2 0 1 3 arch 3 0 1 3 person 1 1 0 0 0 0 person 2 1 0 0 0 0";
+            c.due("all of it: " + Whole.viaduct(x), Whole.viaduct(x).equals(little), true);
+        }
+        Check.viaduct(x, "arch holds 60 moss 9 toll 9;person a weight 40 doubt 9 love 9 at 1;");
+        x.viaduct(0);
+        x.viaduct(0);
+        c.due("built and come on nothing", x.build(4, 0) + x.come(4), 0);
+        String built = " told 1 1 0 3 0 2 0 0 0 0 arch 4 0 0 1 person 4 1 0 0 0 0";
+        c.due("all of it: " + Whole.viaduct(x), Whole.viaduct(x).equals(built), true);
         c.promise(10, "9: the old one stays");
         LeapArches y = States.rich("arch holds 3;person q weight 3;@");
         String ahead = Whole.viaduct(States.rich());
