@@ -189,6 +189,9 @@ public final class DecadesEdgesTest {
         c.decadesFault(x, "run z;@", 3, 4);
         c.decadesFault(x, "jump 9;run z;", 4, 5);
         c.decadesFault(x, "rope z 12345;", 3, 5);
+        c.decadesFault(x, "any ".repeat(75), 2, 4);
+        c.decadesFault(x, "=".repeat(300), 2, 0);
+        c.decadesFault(x, "when at abcdefgh < 3 " + "< 3 ".repeat(60), 2, 21);
         c.decadesFault(x, "rope a 12345;", 1, 7);
         c.decadesFault(x, "loop 1;loop 1;loop 1;loop 0;", 7, 21);
         c.promise(11, "6 a 31st STEP");

@@ -308,6 +308,10 @@ public final class TextEdgesTest {
         c.viaductFault(x, "person a weight 40;person a weight 41;", 3, 26);
         c.viaductFault(x, "arch holds 61;" + "arch holds 3;".repeat(9), 4, 11);
         c.viaductFault(x, "fog; @", 2, 3);
+        c.viaductFault(x, "net ".repeat(225), 2, 4);
+        c.viaductFault(x, "<".repeat(900), 2, 0);
+        c.viaductFault(x, "person a weight 1 doubt 1 love 1 at 0" + " at 0".repeat(100), 2, 38);
+        c.viaductFault(x, "person a weight 1 doubt 1 love 1 at 0 " + "3 ".repeat(300), 2, 38);
     }
 
     private static void theLeastKindOfOneToken(Check c) {
