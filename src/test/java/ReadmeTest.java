@@ -1,4 +1,6 @@
 import java.io.IOException;
+import java.lang.reflect.Method;
+import java.lang.reflect.Modifier;
 import java.net.URL;
 import java.net.URLClassLoader;
 import java.nio.file.Files;
@@ -24,7 +26,8 @@ public final class ReadmeTest {
             List<Long> wants = new ArrayList<>();
             Files.writeString(dir.resolve("ReadmeRun.java"), program(Files.readAllLines(README), calls, wants));
             long[] answers = answersOf(dir);
-            c.due("calls are found in README.md", calls.size() > 20, true);
+            c.due("calls are found in README.md", calls.size() > 50, true);
+            namesEveryCall(c, Files.readString(README));
             c.due("each has its answer", answers.length, calls.size());
             for (int i = 0; i < answers.length; i++) {
                 c.due(calls.get(i), answers[i], wants.get(i));
@@ -33,6 +36,14 @@ public final class ReadmeTest {
             clear(dir);
         }
         c.end();
+    }
+
+    private static void namesEveryCall(Check c, String page) {
+        for (Method m : LeapArches.class.getDeclaredMethods()) {
+            if (Modifier.isPublic(m.getModifiers())) {
+                c.due(m.getName() + " is named in README.md", Pattern.compile("\\b" + m.getName() + "\\b").matcher(page).find(), true);
+            }
+        }
     }
 
     /** A piece that begins with a static method is put beside main, every other one into it. */
